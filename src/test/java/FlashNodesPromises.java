@@ -428,6 +428,7 @@ public final class FlashNodesPromises {
         is(8, "not erased", x.block(0, 3), 0);
         is(8, "torn", x.slot(4, 0), 4);
         promise8NoRoom();
+        promise8Laws();
     }
 
     /** A COLLECT is done, whether there is room then or not. */
@@ -451,6 +452,33 @@ public final class FlashNodesPromises {
         is(8, "no room", x.write(0, 0, 3), -1);
         is(8, "but collected", x.block(0, 3), 1);
         is(8, "erased", x.count(3), 3);
+    }
+
+    /** With 3 ERASED, 1 LIVE, 2 DIRTY, a JOURNAL of 3 a COLLECT comes first, or not. */
+    private static void promise8Laws() {
+        String[] so = {"erased = 3", "live = 1", "dirty = 2", "journal = 3", "2 - erased", "2 - erased < 0",
+            "erased + live = 4", "erased * dirty = 6", "1 + 2 * 3 = 7", "2 * 3 + 1 = 7", "(1 + 2) * 3 = 9",
+            "7 - 2 - 3 = 2", "7 - 2 + 3 = 8", "2 * 3 * 4 = 24", "not 0", "not not 7 = 1", "not 0 + 1 = 2",
+            "not not not (0 < 0)", "0 and 0 or 1", "0 or 1 and 5", "(2 and 4) = 1", "(2 or 0) = 1",
+            "(1 < 2) = 1", "0 - 1 < 0", "8192 * 8192 * 32 < 0", "8192 * 8192 * 32 - 1", "9999", "not (1 < 1)",
+            "dirty = 2 and journal = 3 and live", "((((erased))))", "not (0 and 1)", "not (0 or 0)"};
+        String[] not = {"0", "erased - 3", "not 5", "not 3 * 2", "1 or 0 and 0", "0 and 1 or 1 and 0", "2 and 4 = 1",
+            "1 < 1", "2 < 1", "1 = 2", "8192 * 8192 * 64", "8192 * 8192 * 32 - 1 < 0", "1 and 0", "0 and 1", "0 or 0",
+            "erased < journal", "live * (dirty - 2)", "2 * (1 - 1)", "1 - (1)", "not not 0", "dirty = 2 and live = 2"};
+        for (int i = 0; i < so.length + not.length; i++) {
+            String law = i < so.length ? so[i] : not[i - so.length];
+            FlashNodes x = with("blocks 3; slots 2; file a plain pages 1; collects " + law + ";");
+            for (int j = 1; j <= 4; j++) {
+                x.write(0, 0, j);
+            }
+            is(8, law, x.block(0, 3), i < so.length ? 1 : 0);
+        }
+        FlashNodes x = with("blocks 3; slots 2; file a plain pages 1; collects 1;");
+        store(x, "blocks 3; slots 2; file a plain pages 1;");
+        for (int j = 1; j <= 4; j++) {
+            x.write(0, 0, j);
+        }
+        is(8, "without collects", x.block(0, 3), 0);
     }
 
     private static void promise9() {
@@ -869,6 +897,7 @@ public final class FlashNodesPromises {
         is(21, "two", x.gain(), 2);
         x.cut(1);
         is(21, "no cut", x.gain(), 2);
+        is(22, "no cut", x.rounds(7), 1);
         is(21, "cut stays", x.count(12), 1);
         x.commit();
         is(21, "power off", x.gain(), -1);
@@ -1156,6 +1185,10 @@ public final class FlashNodesPromises {
     private static void promise37() {
         FlashNodes x = with("blocks 3; slots 3; file a plain pages 3;");
         is(37, "none", lives(x, 0), -9);
+        x.mark(0, false);
+        x.write(0, 0, 1);
+        is(37, "slot 0", lives(x, 0), 0);
+        x.mark(0, true);
         x.write(0, 0, 1);
         x.write(0, 0, 2);
         x.write(0, 1, 3);
@@ -1190,6 +1223,7 @@ public final class FlashNodesPromises {
         is(38, "no files", with("blocks 2; slots 5;").ages(5, 99, 1), 10);
         is(38, "nothing told", new FlashNodes().ages(9999, 99, 2), 0);
         x.cut(1);
+        is(38, "no cut", x.ages(1, 1, 0), 1);
         is(38, "no cut", x.ages(1, 1, 1), 11);
         is(38, "as is ahead", x.count(12), 1);
         x.commit();
@@ -1252,6 +1286,39 @@ public final class FlashNodesPromises {
         store(x, SMALL);
         is(39, "gone", x.mark(0, true), false);
         is(39, "nothing told", new FlashNodes().mark(1, false), true);
+        promise39Whole();
+    }
+
+    /** What stands on a MARK stays as it was, whatever is done over it. */
+    private static void promise39Whole() {
+        FlashNodes x = with("blocks 3; slots 3; file a plain pages 2;", "write a 0 1; write a 1 2; commit; remove a;");
+        x.mark(1, false);
+        x.see(0, 0, 1, true);
+        x.see(0, 1, -1, true);
+        is(39, "cuts", x.cuts(), 1);
+        x.write(0, 0, 7);
+        x.write(0, 1, 8);
+        x.commit();
+        x.write(0, 1, 9);
+        x.mark(0, false);
+        x.mark(1, true);
+        is(39, "none seen", x.count(15), 0);
+        x.see(0, 1, 2, false);
+        x.see(0, 1, -1, false);
+        is(39, "cuts", x.cuts(), 0);
+        x.write(0, 0, 30);
+        x.write(0, 0, 31);
+        x.write(0, 0, 32);
+        x.write(0, 0, 33);
+        x.collect();
+        x.mark(0, true);
+        is(39, "cuts", x.cuts(), 1);
+        is(39, "says", x.says(0, 0) * 10 + x.says(0, 1), 79);
+        is(39, "never erased", x.wear(), 0);
+        is(39, "index", x.slot(2, 5) * 100 + x.slot(2, 4) * 10 + x.found(), 122);
+        is(39, "seqs", x.oldest() * 10 + x.count(6), 14);
+        is(39, "mounted", x.mount(), 1);
+        is(39, "says", x.says(0, 0) * 10 + x.says(0, 1), 79);
     }
 
     private static void promise40() {
@@ -1277,6 +1344,74 @@ public final class FlashNodesPromises {
         for (int i = 0; i < off.length; i++) {
             is(40, "off, count " + i, x.count(i), off[i]);
         }
+    }
+
+    /** Nothing but what the document names is ever thrown, whatever is asked; and nothing that only asks changes a thing. */
+    private static void extremes(FlashNodes x) {
+        int[] all = {Integer.MIN_VALUE, Integer.MIN_VALUE + 1, -256, -2, -1, 0, 1, 2, 3, 4, 5, 6, 8, 20, 35, 36, 37, 255,
+            256, 1000, 9999, 10000, 65536, Integer.MAX_VALUE - 1, Integer.MAX_VALUE};
+        int ahead = x.count(6) * 1000 + x.count(3) * 10 + x.count(11);
+        for (int a : all) {
+            x.judged(a);
+            x.rounds(a);
+            x.count(a);
+            lives(x, a);
+            for (int b : all) {
+                x.slot(a, b);
+                x.block(a, b);
+                x.file(a, b);
+                x.says(a, b);
+                x.may(a, b);
+                x.copies(a, b);
+                x.chain(a, b);
+                for (int c : all) {
+                    x.after(a, b, c);
+                    if (a < 0 || b < 2) {
+                        x.ages(a, b, c);
+                    }
+                }
+            }
+        }
+        is(0, "what only asks changes nothing", x.count(6) * 1000 + x.count(3) * 10 + x.count(11), ahead);
+        x.feed(Long.MIN_VALUE, Long.MAX_VALUE, -1L);
+        x.store();
+        x.work();
+        for (int a : all) {
+            x.mark(a, false);
+            x.mark(a, true);
+            x.open(a);
+            x.close(a);
+            x.remove(a);
+            x.cut(a);
+            for (int b : all) {
+                for (int c : all) {
+                    x.write(a, b, c);
+                    x.see(a, b, c, (a ^ b ^ c) % 2 == 0);
+                }
+            }
+            x.commit();
+            x.collect();
+            x.mount();
+        }
+        is(0, "it is still there", x.count(11), 1);
+    }
+
+    private static void extremes() {
+        extremes(new FlashNodes());
+        extremes(with(KINDS, LONG_WORK));
+        extremes(with("blocks 6;", "commit; collect;"));
+        extremes(with("slots 6; file a log pages 4;", "write a 3 3;"));
+        extremes(with("blocks 1; slots 1; file a sync pages 4; collects 1;", "write a 0 3; commit; commit; collect;"));
+        FlashNodes x = with(KINDS + "collects dirty;", LONG_WORK);
+        for (int i = 0; i < 40; i++) {
+            x.write(i % 4, i % 3, i);
+        }
+        extremes(x);
+        x = with(KINDS, LONG_WORK);
+        x.write(0, 0, 1);
+        x.cut(1);
+        x.write(0, 0, 1);
+        extremes(x);
     }
 
     public static void main(String[] args) {
@@ -1320,6 +1455,7 @@ public final class FlashNodesPromises {
         promise38();
         promise39();
         promise40();
+        extremes();
         System.out.println(passed + " passed, " + failed + " failed");
         if (failed != 0) {
             System.exit(1);
