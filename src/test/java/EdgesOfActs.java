@@ -40,6 +40,7 @@ final class EdgesOfActs {
         x.remove(0);
         x.cut(1);
         x.commit();
+        Edge.is("it is TORN", x.slot(2, 0), 4);
         for (int what = 1; what <= 4; what++) {
             Edge.is("DATA has it", x.slot(0, what) >= 0, true);
             Edge.is("GONE", x.slot(1, what), new int[] {0, 2, 0, -1, -1}[what]);
@@ -256,7 +257,7 @@ final class EdgesOfActs {
         Edge.is("OPEN", x.close(3), true);
         Edge.is("not OPEN", x.close(3), false);
         x.open(0);
-        Edge.is("file 4", x.close(4), false);
+        Edge.is("file 4", x.open(4) || x.close(4), false);
         for (int far : FAR) {
             Edge.is("far", x.close(far), false);
         }
@@ -296,6 +297,7 @@ final class EdgesOfActs {
             y.mark(0, true);
             y.cut(put);
             Edge.is("cut at " + put, y.commit(), put < 3 ? -2 : 2);
+            Edge.is("power off, or room", y.commit(), put < 3 ? -1 : -2);
         }
     }
 
@@ -324,6 +326,9 @@ final class EdgesOfActs {
         Edge.is("none is PUT", x.collect(), 0);
         Edge.is("none is PUT", x.count(12), 1);
         Edge.is("none is DIRTY", x.collect(), -1);
+        x.mount();
+        x.write(0, 0, 4);
+        Edge.is("another BLOCK", x.collect(), 1);
     }
 
     /** Promise 14: "CUT: true; false: others, the power is off." */

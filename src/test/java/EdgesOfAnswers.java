@@ -72,6 +72,7 @@ final class EdgesOfAnswers {
     static void promise17OtherPages() {
         FlashNodes x = Edge.with(LARGE);
         for (int file = 0; file < 4; file++) {
+            Edge.is("not MAPPED", x.says(file, 0), -1);
             x.write(file, 0, 9);
         }
         for (int[] no : noPages()) {
@@ -205,25 +206,28 @@ final class EdgesOfAnswers {
 
     /** Term ROUNDS: "ROUNDS of a number (0 to 36): how many COLLECTS, one behind another, no CUT, it takes till so many SLOTS are ERASED" */
     static void roundsOfZeroTo36() {
-        FlashNodes x = Edge.with("blocks 6; slots 6; " + ONE);
+        FlashNodes x = Edge.with("blocks 6; slots 6; file a plain pages 2;");
         Edge.is("0", x.rounds(0), 0);
         Edge.is("36", x.rounds(36), 0);
         Edge.is("-1", x.rounds(-1), -1);
         Edge.is("37", x.rounds(37), -1);
-        for (int i = 0; i < 13; i++) {
+        x.write(0, 1, 1);
+        for (int i = 0; i < 12; i++) {
             x.write(0, 0, i);
         }
-        Edge.is("ERASED", x.count(3), 23);
-        Edge.is("so many there are", x.rounds(23), 0);
-        Edge.is("one more", x.rounds(24), 1);
-        Edge.is("by one", x.rounds(29), 1);
-        Edge.is("by two", x.rounds(30), 2);
-        Edge.is("by two", x.rounds(35), 2);
-        Edge.is("never", x.rounds(36), -1);
-        x.cut(1);
-        Edge.is("no CUT", x.rounds(35), 2);
-        Edge.is("the CUT stays", x.count(12), 1);
-        Edge.is("nothing is done", x.count(3) * 10 + x.wear(), 230);
+        for (int turn = 0; turn < 2; turn++) {
+            Edge.is("ERASED", x.count(3), 23);
+            Edge.is("so many there are", x.rounds(23), 0);
+            Edge.is("one more", x.rounds(24), 1);
+            Edge.is("by one", x.rounds(29), 1);
+            Edge.is("by two", x.rounds(30), 2);
+            Edge.is("by two", x.rounds(34), 2);
+            Edge.is("never", x.rounds(35), -1);
+            Edge.is("never", x.rounds(36), -1);
+            Edge.is("the CUT stays", x.count(12), turn);
+            Edge.is("nothing is done", x.wear(), 0);
+            x.cut(1);
+        }
     }
 
     /** Term ROUNDS: "(with power off none can be: 0 if there are so many, else never)" */
@@ -377,7 +381,7 @@ final class EdgesOfAnswers {
         Edge.is("more than once", z.wear() > 1, true);
     }
 
-    /** Promise 27: "OLDEST; NONE: none is LIVE." */
+    /** Promise 27: "OLDEST; NONE: none is LIVE." and Term OLDEST: "OLDEST: the least SEQ of a LIVE NODE." */
     static void promise27NoneIsLive() {
         Edge.is("no STORE", new FlashNodes().oldest(), -1);
         FlashNodes x = Edge.with(LARGE);
@@ -408,7 +412,10 @@ final class EdgesOfAnswers {
         Edge.is("its copy lies behind", y.slot(4, 1) * 10 + y.slot(3, 1), 14);
     }
 
-    /** Promise 28: "HOT; NONE: no DATA is DIRTY." and Term HOT: "of equal ones the first." */
+    /**
+     * Promise 28: "HOT; NONE: no DATA is DIRTY." and Term HOT: "HOT: the FILE of which the most NODES of DATA are DIRTY;
+     * of equal ones the first."
+     */
     static void promise28NoDataIsDirty() {
         Edge.is("no STORE", new FlashNodes().hot(), -1);
         FlashNodes x = Edge.with(LARGE);
@@ -667,9 +674,37 @@ final class EdgesOfAnswers {
         Edge.is("none fits", x.cuts() * 10 + x.look(), -1);
     }
 
+    /**
+     * Term LOOK: "LOOK: the page (by FILES) of which the greatest number of these by which it SAYS the same (nothing) is
+     * the least, if that is less than all"
+     */
+    static void lookTakesTheLeastOfTheGreatest() {
+        FlashNodes x = Edge.with(LARGE, WORK);
+        // Of 10 PUTS a 0 says nothing at 4, 1 at 2, 3 at 4: at most 4. b 0: 2 at 8. c 0: 4 at 5. d 1: nothing at 8.
+        Edge.is("at most 4", x.look(), 0);
+        x.see(0, 0, 3, true);
+        Edge.is("c 0: nothing at 4 and 5, 4 at 6 and 7", x.look(), 8);
+        x.see(2, 0, 4, true);
+        Edge.is("6 and 7 are alike", x.cuts() * 10 + x.look(), 19);
+        FlashNodes y = Edge.with(LARGE, WORK);
+        y.see(0, 0, -1, true);
+        Edge.is("1, 8, 9, 10: b 0 says 2 at three, d 1 nothing at two", y.cuts() * 100 + y.look(), 413);
+        Edge.work(y, "write d 0 1; write a 1 1; write d 0 2;");
+        Edge.is("a 1: nothing at 3 of 5; d 0: 1 at 3 of 5", y.cuts() * 10 + y.look(), 51);
+        FlashNodes z = Edge.with(LARGE, "write b 0 1; commit; commit; commit;");
+        Edge.is("nothing at one of four", z.look(), 4);
+        z.see(1, 0, -1, false);
+        Edge.is("three are alike", z.cuts() * 10 + z.look(), 29);
+        z.see(1, 0, 0, false);
+        Edge.is("none is less than all", z.look(), -1);
+    }
+
     // ---- lives, DRAWS, ages
 
-    /** Promise 37: "NoSuchElementException: there are not so many, i is less than 0." */
+    /**
+     * Promise 37: "The SLOT of the NODE of the i-th least SEQ (from 0) of those that are LIVE. NoSuchElementException:
+     * there are not so many, i is less than 0."
+     */
     static void promise37NotSoMany() {
         FlashNodes x = Edge.with(LARGE);
         Edge.is("no STORE", Edge.lives(new FlashNodes(), 0), Edge.NO_SUCH);
@@ -699,6 +734,13 @@ final class EdgesOfAnswers {
             Edge.is("by SEQS", Edge.lives(z, i), i);
         }
         Edge.is("eleven", Edge.lives(z, 11), Edge.NO_SUCH);
+        FlashNodes w = Edge.with("blocks 3; slots 3; file a plain pages 2; ");
+        w.write(0, 0, 1);
+        for (int i = 0; i < 3; i++) {
+            w.write(0, 1, i);
+        }
+        w.collect();
+        Edge.is("the least SEQ lies behind", Edge.lives(w, 0) * 10 + Edge.lives(w, 1), 43);
     }
 
     /** Ten DRAWS below m, in numbers without an end. */
@@ -762,6 +804,33 @@ final class EdgesOfAnswers {
         x.commit();
         for (int what = 0; what < 3; what++) {
             Edge.is("power off", x.ages(0, 1, what), -1);
+        }
+    }
+
+    /**
+     * Term LIVES: "a DRAW below 8: 0 to 3: a DRAW below FILES, one below 4, one below 256: that page is WRITTEN so, 4: a
+     * DRAW below FILES: that one is REMOVED, 5: a DRAW below FILES: it is OPENED, or CLOSED, 6: COMMIT, 7: COLLECT (each
+     * if it can be): how many could be"
+     */
+    static void whatCantBeIsNoActThatCould() {
+        FlashNodes x = Edge.with("blocks 6; slots 6; file a plain pages 2; file b plain pages 3;");
+        FlashNodes full = Edge.with("blocks 1; slots 1; file a plain pages 2; file b plain pages 3;");
+        int refused = 0;
+        for (int seed = 0; seed < 120; seed++) {
+            int[] drawn = draws(seed * 83, new int[] {8, 2, 4, 256});
+            boolean there = drawn[2] < 2 + drawn[1];
+            boolean could = drawn[0] < 4 ? there : drawn[0] == 5 || drawn[0] == 6;
+            Edge.is("a page of 2 or 3, of 4 drawn", x.ages(seed * 83, 1, 0), could ? 1 : 0);
+            Edge.is("no room but for a part", full.ages(seed * 83, 1, 0), drawn[0] == 5 || drawn[0] == 6 ? 1 : 0);
+            refused += drawn[0] < 4 && !there ? 1 : 0;
+        }
+        Edge.is("some pages were none", refused > 5, true);
+        x.open(0);
+        x.write(1, 2, 5);
+        for (int seed = 0; seed < 120; seed++) {
+            int[] drawn = draws(seed * 83, new int[] {8, 2, 4, 256});
+            int could = drawn[0] == 4 ? drawn[1] : drawn[0] < 4 ? drawn[2] < 2 + drawn[1] ? 1 : 0 : drawn[0] < 7 ? 1 : 0;
+            Edge.is("one FILE is OPEN, one has a page", x.ages(seed * 83, 1, 0), could);
         }
     }
 
@@ -859,7 +928,11 @@ final class EdgesOfAnswers {
 
     // ---- count
 
-    /** Promise 40: "NONE for another what." and "12: PUTS until CUT (0: no CUT), 13: the HEAD (NONE: none)" */
+    /**
+     * Promise 40: "What 0: BLOCKS, 1: SLOTS of a BLOCK, 2: FILES, 3: ERASED, 4: LIVE, 5: DIRTY SLOTS, 6: the last SEQ, 7:
+     * the BASE, 8: the JOURNAL, 9: PARTS, 10: MAPPED pages, 11: 1 power on, 12: PUTS until CUT (0: no CUT), 13: the HEAD
+     * (NONE: none), 14: lines of the WORK, 15: SEEN, 16: signs on the TAPE. NONE for another what."
+     */
     static void promise40NothingToCount() {
         FlashNodes x = Edge.with("blocks 2; slots 2; " + ONE);
         Edge.is("17", x.count(17), -1);

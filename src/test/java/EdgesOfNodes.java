@@ -768,6 +768,7 @@ final class EdgesOfNodes {
             Edge.is("all in the JOURNAL", x.mount(), 4);
             Edge.is("no BASE", x.count(7), 0);
             Edge.is("all is there", x.file(0, 2), 15);
+            Edge.is("what is broken is DIRTY", x.slot(4, 5), 0);
             Edge.is("the next one is whole", x.commit(), 2);
             Edge.is("its BASE", x.count(7), 5 + put);
             Edge.is("what was broken is DIRTY", x.slot(4, 5), 0);
@@ -942,10 +943,11 @@ final class EdgesOfNodes {
         x.write(0, 0, 4);
         x.remove(0);
         x.write(0, 2, 5);
+        x.write(0, 2, 6);
         x.mount();
-        Edge.is("DATA, GONE, DATA", x.file(0, 2), 4);
+        Edge.is("DATA, GONE, DATA, DATA", x.file(0, 2), 4);
         Edge.is("the other FILE", x.says(1, 0), 3);
-        Edge.is("behind GONE", x.says(0, 2), 5);
+        Edge.is("the last behind GONE", x.says(0, 2), 6);
         FlashNodes y = Edge.with("blocks 3; slots 3; " + FOUR);
         y.write(0, 0, 1);
         y.commit();
