@@ -164,7 +164,7 @@ public final class FlashNodesBroken {
 
         @Override
         protected Class<?> loadClass(String name, boolean resolve) throws ClassNotFoundException {
-            if (name.startsWith("java.")) {
+            if (name.indexOf('.') >= 0) {
                 return super.loadClass(name, resolve);
             }
             synchronized (getClassLoadingLock(name)) {
