@@ -778,9 +778,10 @@ final class EdgesOfAnswers {
         model.now = new FlashModel.State(model.store);
         for (int seed = 0; seed < 200; seed++) {
             int one = seed * 50;
-            Edge.is("99 acts", x.ages(one, 99, 0), model.ages(one, 99, 0));
-            Edge.is("99 acts", x.ages(one, 99, 1), model.ages(one, 99, 1));
-            Edge.is("99 acts", x.ages(one, 99, 2), model.ages(one, 99, 2));
+            FlashNodes y = Edge.with(files);
+            for (int what = 0; what < 3; what++) {
+                Edge.is("99 acts", y.ages(one, 99, what), model.ages(one, 99, what));
+            }
         }
     }
 

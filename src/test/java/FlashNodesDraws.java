@@ -1,5 +1,6 @@
 import java.util.NoSuchElementException;
 import java.util.Random;
+import java.util.function.Predicate;
 
 /** Works by chance, with fixed seeds: FlashNodes and FlashModel have to answer every call alike. */
 public final class FlashNodesDraws {
@@ -8,13 +9,21 @@ public final class FlashNodesDraws {
     private static final String[] STRAY = {"file", "pages", "not", "and", "or", "(", ")", "<", "=", "+", "-", "*", ";",
         "0", "7", "12345", "9999", "toolongword", "#", "A", "dirty", "write", "collect", "plain", "  ", "\n", "256", "x"};
 
+    /** Each object starts with all changes so far, and has 512 calls in all. */
+    private static final int MOST_CHANGES = 350;
+    private static final int MOST_AHEAD_OF_TEXTS = 220;
+
     private final Random random;
-    private final FlashNodes real = new FlashNodes();
+    private final Renewed real = new Renewed();
     private final FlashModel model = new FlashModel();
     private final StringBuilder calls = new StringBuilder();
 
     private FlashNodesDraws(long seed) {
         random = new Random(seed);
+    }
+
+    private boolean does(Predicate<FlashNodes> call) {
+        return real.does(x -> call.test(x) ? 1 : 0) == 1;
     }
 
     private int below(int m) {
@@ -39,7 +48,7 @@ public final class FlashNodesDraws {
             for (int j = 0; j < 24; j++) {
                 v[j / 8] = v[j / 8] << 8 | (i + j < text.length() ? text.charAt(i + j) : 0);
             }
-            same("feed(" + v[0] + "," + v[1] + "," + v[2] + ")", real.feed(v[0], v[1], v[2]),
+            same("feed(" + v[0] + "," + v[1] + "," + v[2] + ")", real.does(x -> x.feed(v[0], v[1], v[2])),
                 model.feed(v[0], v[1], v[2]));
         }
     }
@@ -141,90 +150,90 @@ public final class FlashNodesDraws {
         int v = below(20) == 0 ? below(300) - 10 : below(256);
         int kind = below(40);
         if (kind < 16) {
-            same("write(" + f + "," + p + "," + v + ")", real.write(f, p, v), model.now.write(f, p, v));
+            same("write(" + f + "," + p + "," + v + ")", real.does(x -> x.write(f, p, v)), model.now.write(f, p, v));
         } else if (kind < 19) {
-            same("remove(" + f + ")", real.remove(f), model.now.remove(f));
+            same("remove(" + f + ")", real.does(x -> x.remove(f)), model.now.remove(f));
         } else if (kind < 21) {
-            same("open(" + f + ")", real.open(f), model.now.open(f));
+            same("open(" + f + ")", does(x -> x.open(f)), model.now.open(f));
         } else if (kind < 23) {
-            same("close(" + f + ")", real.close(f), model.now.close(f));
+            same("close(" + f + ")", does(x -> x.close(f)), model.now.close(f));
         } else if (kind < 27) {
-            same("commit()", real.commit(), model.now.commit());
+            same("commit()", real.does(x -> x.commit()), model.now.commit());
         } else if (kind < 31) {
-            same("collect()", real.collect(), model.now.collect());
+            same("collect()", real.does(x -> x.collect()), model.now.collect());
         } else if (kind < 33) {
             int n = below(8) == 0 ? below(24) - 1 : 1 + below(6);
-            same("cut(" + n + ")", real.cut(n), model.cut(n));
+            same("cut(" + n + ")", does(x -> x.cut(n)), model.cut(n));
         } else if (kind < 36) {
             if (!model.now.power || below(4) == 0) {
-                same("mount()", real.mount(), model.now.mount());
+                same("mount()", real.does(x -> x.mount()), model.now.mount());
             }
         } else if (kind < 38) {
             int m = below(10) == 0 ? below(5) - 2 : below(2);
             boolean back = below(2) == 0;
-            same("mark(" + m + "," + back + ")", real.mark(m, back), model.mark(m, back));
+            same("mark(" + m + "," + back + ")", does(x -> x.mark(m, back)), model.mark(m, back));
         } else {
             boolean is = below(3) > 0;
             int w = below(4) - 1;
-            same("see(" + f + "," + p + "," + w + "," + is + ")", real.see(f, p, w, is), model.see(f, p, w, is));
+            same("see(" + f + "," + p + "," + w + "," + is + ")", does(x -> x.see(f, p, w, is)), model.see(f, p, w, is));
         }
     }
 
     private void lookAtAll() {
         for (int i = -1; i <= 17; i++) {
-            same("count(" + i + ")", real.count(i), model.count(i));
+            same("count(" + i + ")", real.asked().count(i), model.count(i));
         }
         for (int slot = -1; slot <= model.now.slots.length; slot++) {
             for (int what = -1; what <= 6; what++) {
-                same("slot(" + slot + "," + what + ")", real.slot(slot, what), model.slot(slot, what));
+                same("slot(" + slot + "," + what + ")", real.asked().slot(slot, what), model.slot(slot, what));
             }
         }
         for (int block = -1; block <= model.store.blocks; block++) {
             for (int what = -1; what <= 5; what++) {
-                same("block(" + block + "," + what + ")", real.block(block, what), model.block(block, what));
+                same("block(" + block + "," + what + ")", real.asked().block(block, what), model.block(block, what));
             }
         }
         for (int f = -1; f <= model.store.names.size(); f++) {
             for (int what = -1; what <= 5; what++) {
-                same("file(" + f + "," + what + ")", real.file(f, what), model.file(f, what));
+                same("file(" + f + "," + what + ")", real.asked().file(f, what), model.file(f, what));
             }
             for (int p = -1; p <= 4; p++) {
-                same("says(" + f + "," + p + ")", real.says(f, p), model.says(f, p));
-                same("may(" + f + "," + p + ")", real.may(f, p), model.may(f, p));
-                same("copies(" + f + "," + p + ")", real.copies(f, p), model.copies(f, p));
-                same("chain(" + f + "," + p + ")", real.chain(f, p), model.chain(f, p));
+                same("says(" + f + "," + p + ")", real.asked().says(f, p), model.says(f, p));
+                same("may(" + f + "," + p + ")", real.asked().may(f, p), model.may(f, p));
+                same("copies(" + f + "," + p + ")", real.asked().copies(f, p), model.copies(f, p));
+                same("chain(" + f + "," + p + ")", real.asked().chain(f, p), model.chain(f, p));
             }
         }
         lookAtTheWhole();
     }
 
     private void lookAtTheWhole() {
-        same("spare()", real.spare(), model.spare());
-        same("pick()", real.pick(), model.now.pick());
-        same("gain()", real.gain(), model.gain());
+        same("spare()", real.asked().spare(), model.spare());
+        same("pick()", real.asked().pick(), model.now.pick());
+        same("gain()", real.asked().gain(), model.gain());
         for (int i = -1; i <= 37; i++) {
-            same("rounds(" + i + ")", real.rounds(i), model.rounds(i));
+            same("rounds(" + i + ")", real.asked().rounds(i), model.rounds(i));
         }
-        same("found()", real.found(), model.now.mountMap().size());
-        same("agrees()", real.agrees(), model.agrees());
-        same("loses()", real.loses(), model.loses());
-        same("wear()", real.wear(), model.wear());
-        same("oldest()", real.oldest(), model.oldest());
-        same("hot()", real.hot(), model.hot());
+        same("found()", real.asked().found(), model.now.mountMap().size());
+        same("agrees()", real.asked().agrees(), model.agrees());
+        same("loses()", real.asked().loses(), model.loses());
+        same("wear()", real.asked().wear(), model.wear());
+        same("oldest()", real.asked().oldest(), model.oldest());
+        same("hot()", real.asked().hot(), model.hot());
         for (int i = -1; i <= model.count(4); i++) {
             same("lives(" + i + ")", livesReal(i), livesModel(i));
         }
         int seed = below(20) == 0 ? below(12000) - 1000 : below(10000);
         int acts = below(20) == 0 ? below(120) - 10 : 1 + below(99);
         for (int what = -1; what <= 3; what++) {
-            same("ages(" + seed + "," + acts + "," + what + ")", real.ages(seed, acts, what),
+            same("ages(" + seed + "," + acts + "," + what + ")", real.asked().ages(seed, acts, what),
                 model.ages(seed, acts, what));
         }
     }
 
     private int livesReal(int i) {
         try {
-            return real.lives(i);
+            return real.asked().lives(i);
         } catch (NoSuchElementException e) {
             return -7;
         }
@@ -240,17 +249,17 @@ public final class FlashNodesDraws {
 
     private void lookAtTheWork() {
         for (int what = -1; what <= 4; what++) {
-            same("judged(" + what + ")", real.judged(what), model.judged(what));
+            same("judged(" + what + ")", real.asked().judged(what), model.judged(what));
         }
-        same("ends()", real.ends(), model.ends());
-        same("halves()", real.halves(), model.halves());
-        same("cuts()", real.cuts(), model.fitting().size());
-        same("look()", real.look(), model.look());
+        same("ends()", real.asked().ends(), model.ends());
+        same("halves()", real.asked().halves(), model.halves());
+        same("cuts()", real.asked().cuts(), model.fitting().size());
+        same("look()", real.asked().look(), model.look());
         for (int i = 0; i < 12; i++) {
             int put = below(10) == 0 ? below(210) - 2 : 1 + below(Math.max(1, model.judged(1) + 2));
             int f = aFile();
             int p = aPage();
-            same("after(" + put + "," + f + "," + p + ")", real.after(put, f, p), model.after(put, f, p));
+            same("after(" + put + "," + f + "," + p + ")", real.asked().after(put, f, p), model.after(put, f, p));
         }
     }
 
@@ -259,25 +268,25 @@ public final class FlashNodesDraws {
         if (below(30) == 0) {
             feed(aStore().repeat(1 + below(6)));
         }
-        same("store()", real.store(), model.store());
+        same("store()", real.does(x -> x.store()), model.store());
         feed(aWork());
-        same("work()", real.work(), model.work());
+        same("work()", real.does(x -> x.work()), model.work());
     }
 
     private void run() {
         int turns = 1 + below(3);
-        for (int turn = 0; turn < turns; turn++) {
+        for (int turn = 0; turn < turns && real.changes() < MOST_AHEAD_OF_TEXTS; turn++) {
             texts();
             lookAtTheWork();
             int changes = 20 + below(60);
-            for (int i = 0; i < changes; i++) {
+            for (int i = 0; i < changes && real.changes() < MOST_CHANGES; i++) {
                 change();
                 if (below(8) == 0) {
                     lookAtAll();
                 }
                 if (below(60) == 0) {
                     feed(aWork());
-                    same("work()", real.work(), model.work());
+                    same("work()", real.does(x -> x.work()), model.work());
                 }
                 if (below(30) == 0) {
                     lookAtTheWork();

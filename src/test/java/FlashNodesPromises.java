@@ -1,4 +1,5 @@
 import java.util.NoSuchElementException;
+import java.util.function.Supplier;
 
 /** Each promise of the document by hand: ordinary inputs, the edges that it names, wrong inputs. */
 public final class FlashNodesPromises {
@@ -1347,71 +1348,90 @@ public final class FlashNodesPromises {
     }
 
     /** Nothing but what the document names is ever thrown, whatever is asked; and nothing that only asks changes a thing. */
-    private static void extremes(FlashNodes x) {
+    private static void extremes(Supplier<FlashNodes> made) {
         int[] all = {Integer.MIN_VALUE, Integer.MIN_VALUE + 1, -256, -2, -1, 0, 1, 2, 3, 4, 5, 6, 8, 20, 35, 36, 37, 255,
             256, 1000, 9999, 10000, 65536, Integer.MAX_VALUE - 1, Integer.MAX_VALUE};
-        int ahead = x.count(6) * 1000 + x.count(3) * 10 + x.count(11);
         for (int a : all) {
-            x.judged(a);
-            x.rounds(a);
-            x.count(a);
-            lives(x, a);
             for (int b : all) {
-                x.slot(a, b);
-                x.block(a, b);
-                x.file(a, b);
-                x.says(a, b);
-                x.may(a, b);
-                x.copies(a, b);
-                x.chain(a, b);
-                for (int c : all) {
-                    x.after(a, b, c);
-                    if (a < 0 || b < 2) {
-                        x.ages(a, b, c);
-                    }
-                }
+                askAll(made.get(), a, b, all);
+                doAll(made.get(), a, b, all);
             }
         }
-        is(0, "what only asks changes nothing", x.count(6) * 1000 + x.count(3) * 10 + x.count(11), ahead);
-        x.feed(Long.MIN_VALUE, Long.MAX_VALUE, -1L);
-        x.store();
-        x.work();
-        for (int a : all) {
-            x.mark(a, false);
-            x.mark(a, true);
-            x.open(a);
-            x.close(a);
-            x.remove(a);
-            x.cut(a);
-            for (int b : all) {
-                for (int c : all) {
-                    x.write(a, b, c);
-                    x.see(a, b, c, (a ^ b ^ c) % 2 == 0);
-                }
+    }
+
+    private static int state(FlashNodes x) {
+        return x.count(6) * 1000 + x.count(3) * 10 + x.count(11);
+    }
+
+    private static void askAll(FlashNodes x, int a, int b, int[] all) {
+        int ahead = state(x);
+        x.judged(a);
+        x.rounds(a);
+        x.count(a);
+        lives(x, a);
+        x.slot(a, b);
+        x.block(a, b);
+        x.file(a, b);
+        x.says(a, b);
+        x.may(a, b);
+        x.copies(a, b);
+        x.chain(a, b);
+        for (int c : all) {
+            x.after(a, b, c);
+            if (a < 0 || b < 2) {
+                x.ages(a, b, c);
             }
-            x.commit();
-            x.collect();
-            x.mount();
         }
+        is(0, "what only asks changes nothing", state(x), ahead);
+    }
+
+    private static void doAll(FlashNodes x, int a, int b, int[] all) {
+        if (b == all[0]) {
+            x.feed(Long.MIN_VALUE, Long.MAX_VALUE, -1L);
+            x.store();
+            x.work();
+        }
+        x.mark(a, false);
+        x.mark(a, true);
+        x.open(a);
+        x.close(b);
+        x.remove(b);
+        x.cut(a);
+        for (int c : all) {
+            x.write(a, b, c);
+            x.see(a, b, c, (a ^ b ^ c) % 2 == 0);
+        }
+        x.commit();
+        x.collect();
+        x.mount();
         is(0, "it is still there", x.count(11), 1);
     }
 
-    private static void extremes() {
-        extremes(new FlashNodes());
-        extremes(with(KINDS, LONG_WORK));
-        extremes(with("blocks 6;", "commit; collect;"));
-        extremes(with("slots 6; file a log pages 4;", "write a 3 3;"));
-        extremes(with("blocks 1; slots 1; file a sync pages 4; collects 1;", "write a 0 3; commit; commit; collect;"));
+    private static FlashNodes written() {
         FlashNodes x = with(KINDS + "collects dirty;", LONG_WORK);
         for (int i = 0; i < 40; i++) {
             x.write(i % 4, i % 3, i);
         }
-        extremes(x);
-        x = with(KINDS, LONG_WORK);
+        return x;
+    }
+
+    private static FlashNodes powerless() {
+        FlashNodes x = with(KINDS, LONG_WORK);
         x.write(0, 0, 1);
         x.cut(1);
         x.write(0, 0, 1);
-        extremes(x);
+        return x;
+    }
+
+    private static void extremes() {
+        extremes(FlashNodes::new);
+        extremes(() -> with(KINDS, LONG_WORK));
+        extremes(() -> with("blocks 6;", "commit; collect;"));
+        extremes(() -> with("slots 6; file a log pages 4;", "write a 3 3;"));
+        extremes(() -> with("blocks 1; slots 1; file a sync pages 4; collects 1;",
+            "write a 0 3; commit; commit; collect;"));
+        extremes(FlashNodesPromises::written);
+        extremes(FlashNodesPromises::powerless);
     }
 
     public static void main(String[] args) {
